@@ -757,7 +757,7 @@ public final class SiphonsBench {
     int pipeCount;
     int sump;
     int step;
-    /** PIPES (bits) that neither GO nor RUN. */
+    /** PIPES (bits) that have no turn in a STEP: they neither GO nor RUN. */
     int out;
     /** What ran OVER in the last STEP, and over whose RIM (bits). */
     int lost;
@@ -786,8 +786,6 @@ public final class SiphonsBench {
       sump = from.sump;
       step = from.step;
       out = 0;
-      lost = 0;
-      lostBits = 0;
     }
 
     boolean hasVessel(int vessel) {
@@ -1053,15 +1051,6 @@ public final class SiphonsBench {
       }
       return trace;
     }
-
-    void takeOut(int bits) {
-      out = bits;
-      for (int p = 0; p < pipeCount; p++) {
-        if ((bits >> p & 1) == 1) {
-          pipes[p].runs = false;
-        }
-      }
-    }
   }
 
   /** A bench on which STEPS pass in mind alone, each time from another bench on. */
@@ -1226,7 +1215,7 @@ public final class SiphonsBench {
 
     private int sumpWithout(Bench now, int out, int n) {
       bench.copy(now);
-      bench.takeOut(out);
+      bench.out = out;
       pass(n);
       return bench.sump;
     }
@@ -1255,7 +1244,7 @@ public final class SiphonsBench {
 
     private boolean spillsWithout(Bench now, int out, int n) {
       bench.copy(now);
-      bench.takeOut(out);
+      bench.out = out;
       for (int s = 1; s <= n; s++) {
         bench.passStep();
         if (bench.lost > 0) {
@@ -1358,7 +1347,6 @@ public final class SiphonsBench {
 
     void clear() {
       size = 0;
-      place = 0;
     }
 
     boolean more() {

@@ -111,6 +111,11 @@ public final class PromiseTests {
       due("VESSELS of it", x.count(0), 0);
     }
     SiphonsBench x = new SiphonsBench();
+    due("a whole text", tell(x, "v1,2,3;"), 1);
+    due("less of it than of the one ahead", tell(x, "v1,2,3"), -1006);
+    due("less yet", tell(x, "v1"), -1002);
+    due("nothing", tell(x, ""), -1000);
+    due("VESSELS", x.count(0), 1);
     x.letter('s');
     x.letter(0);
     due("a letter 0", x.tells(), -1001);
@@ -482,6 +487,16 @@ public final class PromiseTests {
       back.kind(0, kind, 9);
       due("back by KIND " + kind, back.goes(0), kind == 0 ? -2 : 0);
     }
+    // 5 and 2 by 3 against 4 and 3 by 2, with the MOUTHS below: 1/6 times 6 by 5 is not one.
+    SiphonsBench based = bench("v3,5,9;v2,4,9;p0>1,5,4,9;w0=2;w1=3;");
+    due("less than one", based.goes(0), 0);
+    based.water(0, 7);
+    due("11/6 times 6 by 5", based.goes(0), 2);
+    based.water(0, 0);
+    based.water(1, 18);
+    due("8 times 6 by 5, back", based.goes(0), -9);
+    based.water(1, 9);
+    due("7/2 times 6 by 5, back", based.goes(0), -4);
     due("-1", x.goes(1), LONGS + 1);
     due("-1", x.goes(-1), LONGS + 1);
     counts(x, 2, 0, 0, 0, 0);
@@ -515,6 +530,7 @@ public final class PromiseTests {
     due("over(0)", x.over(0), 3);
     due("over(1)", x.over(1), 4);
     due("over(2): full is not over", x.over(2), -9);
+    due("over(0) again", x.over(0), 3);
     due("-1", x.over(3), -1);
     due("-1", x.over(-1), -1);
     counts(x, 2, 0, 0, 0, 0);
@@ -673,6 +689,10 @@ public final class PromiseTests {
     due("matters(0): all alike", x.matters(0), 0);
     // With both nothing is lost; without the first 1, without the second 2.
     due("matters(1)", x.matters(1), 1);
+    SiphonsBench first = bench("v1,0,5;v1,0,30;p0>1,0,0,2;p0>1,0,0,1;w0=5;t0=3;");
+    due("the first is missed most", first.matters(1), 0);
+    due("matters(99)", first.matters(99), 0);
+    due("the first", first.then(1, 0, 1), 3);
     SiphonsBench less = bench("v1,20,9;v1,0,1;v1,0,30;p0>2,20,0,1;p0>1,20,0,9;w0=9;w1=1;");
     due("less is lost without it", less.matters(1), 1);
     SiphonsBench alike = bench("v1,0,9;v1,0,9;p0>1,0,0,1;p0>1,0,0,1;w0=9;");
@@ -759,6 +779,9 @@ public final class PromiseTests {
     x.water(2, 1);
     due("a half", x.work(0), Double.doubleToLongBits(0.5));
     due("a half, cut", x.work(1), 0);
+    SiphonsBench small = bench("v9,0,1;w0=1;");
+    due("a ninth's half", small.work(0), Double.doubleToLongBits(1.0 / 9.0 / 2.0));
+    due("a ninth", small.shown(0), Float.floatToIntBits(1.0f / 9.0f));
     due("-2", x.work(2), LONGS + 2);
     due("-2", x.work(-1), LONGS + 2);
     counts(x, 0, 2, 0, 0, 0);
@@ -852,6 +875,10 @@ public final class PromiseTests {
     due("a CUP that isn't full, a DRIP", x.whatIs(1, 0, 0), 8 + 32);
     fill(x, 2, 1, 2, 3, 4, 5, 6, 6, 6, 6, 77, 78);
     due("those behind the ninth", x.whatIs(2, 0, 0), 7);
+    fill(x, 2, 1, 2, 3, 4, 5, 6, 6, 6, 5);
+    due("the ninth", x.whatIs(2, 0, 0), 0);
+    fill(x, 2, 1, 1);
+    due("the second", x.whatIs(2, 0, 0), 0);
     fill(x, 2, LEAST_INT);
     due("the least int is none", x.whatIs(2, 0, 0), 0);
     x.list(2, 0);
@@ -1111,9 +1138,13 @@ public final class PromiseTests {
     x.tap(0, 9);
     x.kind(0, 4, 4);
     x.rate(0, 9);
-    x.vessel(2, 2, 2);
-    x.pipe(2, 1, 2, 0, 2);
+    x.vessel(2, 20, 2);
+    x.water(2, 4);
+    x.tap(2, 9);
+    x.pipe(2, 1, 20, 0, 2);
+    x.kind(1, 1, 1);
     x.passes(9);
+    due("the second RUNS", x.count(5), 2);
     due("on()", x.on(), 2);
     int[] vessel = {1, 10, 5, 5, 3};
     for (int what = 0; what < 5; what++) {
@@ -1129,6 +1160,14 @@ public final class PromiseTests {
     }
     due("LISTS are not of it", x.judge(0), -9);
     due("RACKS are not of it", x.racked(0, 0), 1);
+    // What comes now stands where something else stood before.
+    due("a VESSEL more", x.vessel(3, 3, 3), 2);
+    due("its WATER", x.of(2, 3), 0);
+    due("its TAP", x.of(2, 4), 0);
+    due("a PIPE more", x.pipe(2, 1, 3, 0, 1), 1);
+    due("its KIND", x.ofPipe(1, 0), 0);
+    due("its FIGURE", x.ofPipe(1, 1), 0);
+    due("it doesn't RUN", x.count(5), 1);
     x.passes(9);
     due("on() again", x.on(), 2);
     due("WATER", x.of(0, 3), 5);
