@@ -193,7 +193,7 @@ public final class SiphonsBench {
       case 7:
         return p.runs ? 1 : 0;
       case 8:
-        return p.isSiphon() ? now.crest(p) : NEVER;
+        return now.crestOf(p);
       default:
         return refuse(OTHER);
     }
@@ -747,6 +747,48 @@ public final class SiphonsBench {
     boolean isSiphon() {
       return kind == SIPHON || kind == CUP;
     }
+
+    int crest(Vessel from) {
+      if (kind != CUP) {
+        return mouth + figure + 1;
+      }
+      int crest = from.base + from.rim - figure;
+      return crest > mouth ? crest : mouth;
+    }
+
+    boolean isAtCrest(Vessel from) {
+      return from.height() >= crest(from) * from.area;
+    }
+
+    /** What it GOES by the HEADS, as if it RAN: below 0 from SECOND to FIRST. */
+    int flow(Vessel a, Vessel b, int step) {
+      int areas = a.area + b.area;
+      if (areas < 1) {
+        return 0;
+      }
+      int uneven = a.head(mouth) * b.area - b.head(other) * a.area;
+      if (uneven > 0) {
+        return Math.min(wish(step), Math.min(a.waterAbove(mouth), uneven / areas));
+      }
+      if (kind == PIPE) {
+        return -Math.min(rate, Math.min(b.waterAbove(other), -uneven / areas));
+      }
+      return 0;
+    }
+
+    /** What it would GO, were there no lack of WATER or HEAD. */
+    private int wish(int step) {
+      switch (kind) {
+        case CUP:
+          return 2 * rate;
+        case WEIR:
+          return Integer.MAX_VALUE;
+        case DRIP:
+          return step % 3 == figure % 3 ? rate : 0;
+        default:
+          return rate;
+      }
+    }
   }
 
   /** VESSELS, PIPES, THE SUMP and STEP: all that THE IMAGE holds. */
@@ -945,75 +987,34 @@ public final class SiphonsBench {
       if (!hasVessel(p.first) || !hasVessel(p.second)) {
         return;
       }
+      Vessel a = vessels[p.first];
+      Vessel b = vessels[p.second];
       if (p.isSiphon() && !p.runs) {
-        p.runs = isAtCrest(p);
+        p.runs = p.isAtCrest(a);
         if (!p.runs) {
           return;
         }
       }
-      int amount = flow(p);
-      Vessel from = vessels[p.first];
-      from.water -= amount;
-      vessels[p.second].water += amount;
-      if (amount == 0 || from.waterAbove(p.mouth) == 0) {
+      int amount = p.flow(a, b, step);
+      a.water -= amount;
+      b.water += amount;
+      if (amount == 0 || a.waterAbove(p.mouth) == 0) {
         p.runs = false;
       }
     }
 
     /** What it would GO now, were it the next to: below 0 from SECOND to FIRST. */
     int wouldGo(Pipe p) {
-      return p.isSiphon() && !p.runs && !isAtCrest(p) ? 0 : flow(p);
-    }
-
-    int crest(Pipe p) {
-      if (p.kind != CUP || !hasVessel(p.first)) {
-        return p.mouth + p.figure + 1;
-      }
-      Vessel v = vessels[p.first];
-      return Math.max(v.base + v.rim - p.figure, p.mouth);
-    }
-
-    private boolean isAtCrest(Pipe p) {
-      if (!hasVessel(p.first)) {
-        return false;
-      }
-      Vessel v = vessels[p.first];
-      return v.height() >= crest(p) * v.area;
-    }
-
-    /** What it GOES by the HEADS, as if it RAN: below 0 from SECOND to FIRST. */
-    private int flow(Pipe p) {
       if (!hasVessel(p.first) || !hasVessel(p.second)) {
         return 0;
       }
       Vessel a = vessels[p.first];
-      Vessel b = vessels[p.second];
-      int areas = a.area + b.area;
-      if (areas < 1) {
-        return 0;
-      }
-      int uneven = a.head(p.mouth) * b.area - b.head(p.other) * a.area;
-      if (uneven > 0) {
-        return Math.min(wish(p), Math.min(a.waterAbove(p.mouth), uneven / areas));
-      }
-      if (p.kind == PIPE) {
-        return -Math.min(p.rate, Math.min(b.waterAbove(p.other), -uneven / areas));
-      }
-      return 0;
+      boolean waits = p.isSiphon() && !p.runs && !p.isAtCrest(a);
+      return waits ? 0 : p.flow(a, vessels[p.second], step);
     }
 
-    /** What it would GO, were there no lack of WATER or HEAD. */
-    private int wish(Pipe p) {
-      switch (p.kind) {
-        case CUP:
-          return 2 * p.rate;
-        case WEIR:
-          return Integer.MAX_VALUE;
-        case DRIP:
-          return step % 3 == p.figure % 3 ? p.rate : 0;
-        default:
-          return p.rate;
-      }
+    int crestOf(Pipe p) {
+      return p.isSiphon() && hasVessel(p.first) ? p.crest(vessels[p.first]) : NEVER;
     }
 
     int runBits() {

@@ -1,6 +1,4 @@
-import java.io.DataInputStream;
 import java.io.IOException;
-import java.io.InputStream;
 import java.lang.management.ManagementFactory;
 import java.lang.reflect.Constructor;
 import java.lang.reflect.Field;
@@ -9,9 +7,12 @@ import java.lang.reflect.Modifier;
 import java.nio.charset.StandardCharsets;
 import java.nio.file.Files;
 import java.nio.file.Path;
+import java.util.ArrayList;
 import java.util.Arrays;
 import java.util.List;
+import java.util.Map;
 import java.util.Set;
+import java.util.TreeMap;
 import java.util.TreeSet;
 
 /** What LANGUAGE.md asks of the class, as far as its face, its class files and its source tell it. */
@@ -95,55 +96,39 @@ public final class RulesTests {
   }
 
   private static void classFiles() throws IOException {
-    classFile("SiphonsBench");
+    Map<String, Set<String>> calls = new TreeMap<>();
+    List<String> names = new ArrayList<>(List.of("SiphonsBench"));
     for (Class<?> inside : SiphonsBench.class.getDeclaredClasses()) {
-      classFile(inside.getName());
+      names.add(inside.getName());
     }
+    for (String name : names) {
+      ClassFile file = new ClassFile(name);
+      holds("3: nothing dynamic in " + name, !file.dynamic);
+      for (String maker : file.makers) {
+        holds("12: made in a constructor: " + maker,
+            maker.endsWith(".<init>") || maker.endsWith(".<clinit>"));
+      }
+      calls.putAll(file.calls);
+    }
+    for (String method : calls.keySet()) {
+      for (String called : calls.get(method)) {
+        holds("4: " + called, calls.containsKey(called) || LIBRARY.contains(called));
+      }
+      int depth = depth(calls, method, 20);
+      holds("8, 11: no recursion, at most eight deep: " + method + ": " + depth, depth <= 8);
+    }
+    holds("all methods were seen", calls.containsKey("SiphonsBench$Bench.passStep"));
   }
 
-  private static final int UTF8 = 1;
-  private static final int METHOD = 10;
-  private static final int INTERFACE_METHOD = 11;
-  private static final int NAME_AND_TYPE = 12;
-  private static final int CLASS = 7;
-
-  /** Reads the constant pool: there stands all that the code calls. */
-  private static void classFile(String name) throws IOException {
-    try (InputStream raw = SiphonsBench.class.getResourceAsStream(name + ".class");
-        DataInputStream in = new DataInputStream(raw)) {
-      in.skipBytes(8);
-      int size = in.readUnsignedShort();
-      int[] tag = new int[size];
-      int[] one = new int[size];
-      int[] two = new int[size];
-      String[] text = new String[size];
-      for (int i = 1; i < size; i++) {
-        tag[i] = in.readUnsignedByte();
-        switch (tag[i]) {
-          case UTF8 -> text[i] = in.readUTF();
-          case 3, 4 -> in.readInt();
-          case 5, 6 -> {
-            in.readLong();
-            i++;
-          }
-          case CLASS, 8, 16, 19, 20 -> one[i] = in.readUnsignedShort();
-          case 15 -> in.skipBytes(3);
-          default -> {
-            one[i] = in.readUnsignedShort();
-            two[i] = in.readUnsignedShort();
-          }
-        }
-        holds("3: nothing dynamic in " + name, tag[i] != 15 && tag[i] != 17 && tag[i] != 18);
-      }
-      for (int i = 1; i < size; i++) {
-        if (tag[i] == METHOD || tag[i] == INTERFACE_METHOD) {
-          String of = text[one[one[i]]];
-          holds("a class and a name", tag[one[i]] == CLASS && tag[two[i]] == NAME_AND_TYPE);
-          String called = of + "." + text[one[two[i]]];
-          holds("4: " + called, of.startsWith("SiphonsBench") || LIBRARY.contains(called));
-        }
+  /** How many calls stand open at most, this one and those of the library counted too. */
+  private static int depth(Map<String, Set<String>> calls, String method, int most) {
+    int deepest = 0;
+    if (most > 0) {
+      for (String called : calls.getOrDefault(method, Set.of())) {
+        deepest = Math.max(deepest, depth(calls, called, most - 1));
       }
     }
+    return deepest + 1;
   }
 
   private static void source() throws IOException {
