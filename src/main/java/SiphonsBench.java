@@ -5,6 +5,7 @@
  * because all calls of a run live in one room.
  */
 public final class SiphonsBench {
+  private static final int FITS = 0;
   private static final int NOBODY = -1;
   private static final int OTHER = -2;
   private static final int STATE = -3;
@@ -83,7 +84,7 @@ public final class SiphonsBench {
     refusals = new int[-ROOM + 1];
   }
 
-  // ---- vessels, pipes.
+  // ---- vessels, pipes
 
   public int letter(int c) {
     if (c < 0) {
@@ -126,11 +127,9 @@ public final class SiphonsBench {
     if (!now.hasPipe(pipe)) {
       return refuse(NOBODY);
     }
-    if (v < 1) {
-      return refuse(BELOW);
-    }
-    if (v > MOST_RATE) {
-      return refuse(ROOM);
+    int refusal = outside(v, 1, MOST_RATE);
+    if (refusal != FITS) {
+      return refuse(refusal);
     }
     int old = now.pipes[pipe].rate;
     now.pipes[pipe].rate = v;
@@ -217,14 +216,12 @@ public final class SiphonsBench {
     return now.wouldGo(now.pipes[pipe]);
   }
 
-  // ---- in mind.
+  // ---- in mind
 
   public int then(int n, int what, int which) {
-    if (n < 0) {
-      return refuse(BELOW);
-    }
-    if (n > MOST_PASSED) {
-      return refuse(ROOM);
+    int refusal = outside(n, 0, MOST_PASSED);
+    if (refusal != FITS) {
+      return refuse(refusal);
     }
     if (what < 0 || what > 2) {
       return refuse(OTHER);
@@ -258,11 +255,9 @@ public final class SiphonsBench {
     if (!now.hasPipe(pipe)) {
       return refuse(NOBODY);
     }
-    if (n < 0) {
-      return refuse(BELOW);
-    }
-    if (n > MOST_PASSED) {
-      return refuse(ROOM);
+    int refusal = outside(n, 0, MOST_PASSED);
+    if (refusal != FITS) {
+      return refuse(refusal);
     }
     return mind.startsWithin(now, pipe, n);
   }
@@ -282,11 +277,9 @@ public final class SiphonsBench {
     if (!now.hasVessel(vessel) || !now.hasPipe(pipe)) {
       return refuse(NOBODY);
     }
-    if (n < 1) {
-      return refuse(BELOW);
-    }
-    if (n > MOST_LEAST) {
-      return refuse(ROOM);
+    int refusal = outside(n, 1, MOST_LEAST);
+    if (refusal != FITS) {
+      return refuse(refusal);
     }
     return mind.leastWater(now, vessel, pipe, n);
   }
@@ -295,11 +288,9 @@ public final class SiphonsBench {
     if (!now.hasVessel(vessel) || !now.hasVessel(told)) {
       return refuse(NOBODY);
     }
-    if (n < 0) {
-      return refuse(BELOW);
-    }
-    if (n > MOST_PASSED) {
-      return refuse(ROOM);
+    int refusal = outside(n, 0, MOST_PASSED);
+    if (refusal != FITS) {
+      return refuse(refusal);
     }
     if (what < 0 || what > 1) {
       return refuse(OTHER);
@@ -309,11 +300,9 @@ public final class SiphonsBench {
   }
 
   public int matters(int n) {
-    if (n < 0) {
-      return refuse(BELOW);
-    }
-    if (n > MOST_PASSED) {
-      return refuse(ROOM);
+    int refusal = outside(n, 0, MOST_PASSED);
+    if (refusal != FITS) {
+      return refuse(refusal);
     }
     return mind.mostMissed(now, n);
   }
@@ -337,7 +326,7 @@ public final class SiphonsBench {
     return mind.firstAlike(now, one, other);
   }
 
-  // ---- floats, odds.
+  // ---- floats, odds
 
   public long shown(int vessel) {
     if (!now.hasVessel(vessel)) {
@@ -382,7 +371,7 @@ public final class SiphonsBench {
     return sum;
   }
 
-  // ---- lists, lots, racks.
+  // ---- lists, lots, racks
 
   public int judge(int list) {
     if (!isList(list) || !now.hasVessel(0)) {
@@ -410,11 +399,9 @@ public final class SiphonsBench {
   }
 
   public int lots(int n, int z, int what) {
-    if (n < 1) {
-      return refuse(BELOW);
-    }
-    if (n > MOST_LOTS) {
-      return refuse(ROOM);
+    int refusal = outside(n, 1, MOST_LOTS);
+    if (refusal != FITS) {
+      return refuse(refusal);
     }
     if (what < 0 || what > 1) {
       return refuse(OTHER);
@@ -532,7 +519,7 @@ public final class SiphonsBench {
     return rackRows[rack].size;
   }
 
-  // ---- the image, what is told.
+  // ---- the image, what is told
 
   public int image() {
     kept.copy(now);
@@ -605,6 +592,13 @@ public final class SiphonsBench {
       default:
         return trial.passSteps(n[0]);
     }
+  }
+
+  private static int outside(int v, int least, int most) {
+    if (v < least) {
+      return BELOW;
+    }
+    return v > most ? ROOM : FITS;
   }
 
   private static boolean isList(int list) {
@@ -893,11 +887,9 @@ public final class SiphonsBench {
       if (!isKind(kind)) {
         return OTHER;
       }
-      if (figure < 0) {
-        return BELOW;
-      }
-      if (figure > MOST_FIGURE) {
-        return ROOM;
+      int refusal = outside(figure, 0, MOST_FIGURE);
+      if (refusal != FITS) {
+        return refusal;
       }
       Pipe p = pipes[pipe];
       int old = 10 * p.kind + p.figure;
@@ -912,11 +904,9 @@ public final class SiphonsBench {
         return NOBODY;
       }
       Vessel v = vessels[vessel];
-      if (water < 0) {
-        return BELOW;
-      }
-      if (water > v.brim()) {
-        return ROOM;
+      int refusal = outside(water, 0, v.brim());
+      if (refusal != FITS) {
+        return refusal;
       }
       int old = v.water;
       v.water = water;
@@ -927,11 +917,9 @@ public final class SiphonsBench {
       if (!hasVessel(vessel)) {
         return NOBODY;
       }
-      if (tap < 0) {
-        return BELOW;
-      }
-      if (tap > MOST_TAP) {
-        return ROOM;
+      int refusal = outside(tap, 0, MOST_TAP);
+      if (refusal != FITS) {
+        return refusal;
       }
       int old = vessels[vessel].tap;
       vessels[vessel].tap = tap;
@@ -939,11 +927,9 @@ public final class SiphonsBench {
     }
 
     int passSteps(int n) {
-      if (n < 1) {
-        return BELOW;
-      }
-      if (n > MOST_PASSED) {
-        return ROOM;
+      int refusal = outside(n, 1, MOST_PASSED);
+      if (refusal != FITS) {
+        return refusal;
       }
       for (int i = 0; i < n; i++) {
         passStep();
