@@ -27,12 +27,22 @@ final class Document {
         String text = part.substring(Math.max(end, 0)).replaceAll("\\s+", " ").trim();
         // Of a promise, what stands behind its signature; not what groups the calls of the face.
         text = text.replaceAll("^`[^`]*`: ", "").replaceAll("Ahead of the calls [^:]*: ---- ", "");
-        texts.put(title, text);
-        quoted.put(title, new BitSet());
+        if (title.equals("Terms")) {
+          int two = Math.max(0, text.indexOf("==== II."));
+          add("Terms I", text.substring(0, two));
+          add("Terms II", text.substring(two));
+        } else {
+          add(title, text);
+        }
       }
     } catch (IOException e) {
       System.out.println("no document at " + PLACE + ": its words are not compared");
     }
+  }
+
+  private void add(String title, String text) {
+    texts.put(title, text);
+    quoted.put(title, new BitSet());
   }
 
   /** Whether these words stand in the section, word by word. */

@@ -1,12 +1,13 @@
 import java.util.ArrayList;
+import java.util.Arrays;
 import java.util.List;
 import java.util.function.Supplier;
 
 /**
- * What the edge tests share. Each of them is one sentence of the document, told in the document's own
+ * What the edge tests share: they extend it, so that its words are theirs. Each of them is one sentence of the document, told in the document's own
  * words, with a run of calls on objects of its own that goes otherwise if the sentence is broken.
  */
-final class Edge {
+abstract class Edge {
   static final int LEAST = Integer.MIN_VALUE;
   static final int MOST = Integer.MAX_VALUE;
 
@@ -21,8 +22,6 @@ final class Edge {
   private static boolean holds = true;
   private static int kept = 0;
   private static int broken = 0;
-
-  private Edge() {}
 
   /** What follows is of this section of the document; all numbers of the one ahead must be quoted. */
   static void section(String title) {
@@ -89,6 +88,26 @@ final class Edge {
     return x.tells();
   }
 
+  /** As told(), but by calls of the STATEMENTS' own, one by one: no letter has come. */
+  static SiphonsBench bench(String text) {
+    SiphonsBench x = new SiphonsBench();
+    for (String statement : text.split(";")) {
+      int[] n = Arrays.stream(statement.substring(1).split("[^0-9]")).mapToInt(Integer::parseInt).toArray();
+      int answer = switch (statement.charAt(0)) {
+        case 'v' -> x.vessel(n[0], n[1], n[2]);
+        case 'p' -> x.pipe(n[0], n[1], n[2], n[3], n[4]);
+        case 'k' -> x.kind(n[0], n[1], n[2]);
+        case 'w' -> x.water(n[0], n[1]);
+        case 't' -> x.tap(n[0], n[1]);
+        default -> x.passes(n[0]);
+      };
+      if (answer < 0) {
+        throw new IllegalArgumentException("the test's own bench is wrong: " + text + " " + answer);
+      }
+    }
+    return x;
+  }
+
   /** An object to which a text was told that must be without FAULT. */
   static SiphonsBench told(String text) {
     SiphonsBench x = new SiphonsBench();
@@ -101,7 +120,7 @@ final class Edge {
 
   /** Something of all: a SIPHON that RUNS, LISTS, RACKS, letters, an image of another state. */
   static SiphonsBench some() {
-    SiphonsBench x = told("v2,5,10;v3,0,20;v9,4,9;p0>1,7,0,2;p1>2,3,4,1;k0=1,2;k1=5,4;"
+    SiphonsBench x = bench("v2,5,10;v3,0,20;v9,4,9;p0>1,7,0,2;p1>2,3,4,1;k0=1,2;k1=5,4;"
         + "w0=18;w1=7;t0=1;s2;");
     x.image();
     x.passes(1);
@@ -133,6 +152,16 @@ final class Edge {
     for (int i = 0; i < 120; i++) {
       x.letter('0');
     }
+    return x;
+  }
+
+  /** The bench at a STEP from 9901 on: so many behind 9900. */
+  static SiphonsBench lateAs(String text, int steps) {
+    SiphonsBench x = bench(text);
+    for (int i = 0; i < 100; i++) {
+      x.passes(99);
+    }
+    x.passes(steps);
     return x;
   }
 
@@ -180,6 +209,15 @@ final class Edge {
     List<Long> due = seen(twin);
     if (!seen.equals(due)) {
       fault("something else changed: " + seen + " instead of " + due);
+    }
+  }
+
+  /** What is only told, or in mind alone, changes nothing. */
+  static void leaves(Call... calls) {
+    for (Call call : calls) {
+      SiphonsBench x = some();
+      call.on(x);
+      alike(x, some());
     }
   }
 

@@ -1,22 +1,7 @@
 /** The edges that the promises 1 to 14 name, in their words: each sentence by a test of its own. */
-public final class EdgeVesselTests {
-  private static final int LEAST = Edge.LEAST;
-  private static final int MOST = Edge.MOST;
-
-  private static void says(String words, Runnable test) {
-    Edge.says(words, test);
-  }
-
-  private static void due(long got, long want) {
-    Edge.due(got, want);
-  }
-
-  private static SiphonsBench told(String text) {
-    return Edge.told(text);
-  }
-
+public final class EdgeVesselTests extends Edge {
   private static void newObject() {
-    Edge.section("Promise 1");
+    section("Promise 1");
     says("Nothing there.", () -> {
       SiphonsBench x = new SiphonsBench();
       for (int what = 0; what <= 5; what++) {
@@ -57,15 +42,15 @@ public final class EdgeVesselTests {
     });
     says("Nothing there.", () -> {
       // Nothing of another object is there, either.
-      SiphonsBench other = Edge.some();
+      SiphonsBench other = some();
       SiphonsBench x = new SiphonsBench();
       due(other.count(0), 3);
-      Edge.alike(x, new SiphonsBench());
+      alike(x, new SiphonsBench());
     });
   }
 
   private static void letter() {
-    Edge.section("Promise 2");
+    section("Promise 2");
     says("A letter (0 .. 255) comes", () -> {
       SiphonsBench x = new SiphonsBench();
       due(x.letter(0), 1);
@@ -79,20 +64,20 @@ public final class EdgeVesselTests {
       }
       due(x.count(4), 120);
     });
-    says("-4", () -> Edge.refused(-4, x -> x.letter(-1), x -> x.letter(LEAST)));
-    says("-6 (255", () -> Edge.refused(-6, x -> x.letter(256), x -> x.letter(MOST)));
-    says("120, too)", () -> Edge.refused(Edge::lettered, -6,
+    says("-4", () -> refused(-4, x -> x.letter(-1), x -> x.letter(LEAST)));
+    says("-6 (255", () -> refused(-6, x -> x.letter(256), x -> x.letter(MOST)));
+    says("120, too)", () -> refused(Edge::lettered, -6,
         x -> x.letter(0), x -> x.letter(255), x -> x.letter(256)));
-    says("-4; -6 (255; 120, too)", () -> Edge.refused(Edge::lettered, -4, x -> x.letter(-1)));
+    says("-4; -6 (255; 120, too)", () -> refused(Edge::lettered, -4, x -> x.letter(-1)));
   }
 
   private static void tells() {
-    Edge.section("Promise 3");
+    section("Promise 3");
     says("The letters become STATEMENTS", () -> {
       SiphonsBench x = new SiphonsBench();
-      due(Edge.tell(x, "v1,0,9;"), 1);
+      due(tell(x, "v1,0,9;"), 1);
       due(x.count(0), 1);
-      due(Edge.tell(x, "t0=9;"), 1);
+      due(tell(x, "t0=9;"), 1);
       due(x.of(0, 4), 9);
     });
     says("The letters become STATEMENTS", () -> {
@@ -102,13 +87,13 @@ public final class EdgeVesselTests {
       x.pipe(0, 1, 0, 0, 1);
       x.passes(5);
       int water = x.of(0, 3);
-      due(Edge.tell(x, "t1=1;"), 1);
+      due(tell(x, "t1=1;"), 1);
       due(x.of(0, 3), water);
       due(x.count(1), 1);
       due(x.count(2), 5);
-      due(Edge.tell(x, "v1,0,9;t2=9;s9;s0;"), -2015);
-      due(Edge.tell(x, "w2=0;"), -2000);
-      due(Edge.tell(x, "v1,0,9;"), 1);
+      due(tell(x, "v1,0,9;t2=9;s9;s0;"), -2015);
+      due(tell(x, "w2=0;"), -2000);
+      due(tell(x, "v1,0,9;"), 1);
       due(x.of(2, 4), 0);
       due(x.count(2), 5);
     });
@@ -118,45 +103,45 @@ public final class EdgeVesselTests {
       due(x.tells(), -1000);
       due(x.letter('s'), 1);
       // What is left of a longer text ahead doesn't count.
-      due(Edge.tell(new SiphonsBench(), "v1,0,9;"), 1);
+      due(tell(new SiphonsBench(), "v1,0,9;"), 1);
       SiphonsBench less = told("v1,0,9;");
-      due(Edge.tell(less, "v1,0"), -1004);
+      due(tell(less, "v1,0"), -1004);
       due(less.letter('x'), 1);
     });
     says("(with a FAULT neither)", () -> {
       SiphonsBench x = new SiphonsBench();
-      due(Edge.tell(x, "s1;x"), -1003);
+      due(tell(x, "s1;x"), -1003);
       due(x.count(4), 0);
-      due(Edge.tell(x, "s1;s0;"), -2003);
+      due(tell(x, "s1;s0;"), -2003);
       due(x.count(4), 0);
-      due(Edge.tell(x, "s1;"), 1);
+      due(tell(x, "s1;"), 1);
     });
     says("with a FAULT neither", () -> {
-      SiphonsBench x = Edge.lettered();
+      SiphonsBench x = lettered();
       due(x.tells(), -1000);
       due(x.count(4), 0);
       due(x.letter('s'), 1);
     });
     says("how many", () -> {
-      due(Edge.tell(new SiphonsBench(), "s1;"), 1);
-      due(Edge.tell(new SiphonsBench(), "v1,0,9;w0=9;s1;s1;"), 4);
+      due(tell(new SiphonsBench(), "s1;"), 1);
+      due(tell(new SiphonsBench(), "v1,0,9;w0=9;s1;s1;"), 4);
       StringBuilder most = new StringBuilder();
       for (int i = 0; i < 40; i++) {
         most.append("s9;");
       }
-      due(Edge.tell(new SiphonsBench(), most.toString()), 40);
+      due(tell(new SiphonsBench(), most.toString()), 40);
     });
     says("the FAULT", () -> {
       due(new SiphonsBench().tells(), -1000);
-      due(Edge.tell(new SiphonsBench(), "s1;s"), -1004);
-      due(Edge.tell(new SiphonsBench(), "s1;s0;"), -2003);
+      due(tell(new SiphonsBench(), "s1;s"), -1004);
+      due(tell(new SiphonsBench(), "s1;s0;"), -2003);
     });
     says("(no REFUSAL is counted)", () -> {
       String[] wrong = {"x", "v0,0,1;", "v10,0,1;", "w0=1;", "k0=6,0;", "p0>0,0,0,1;", "s0;",
         "v1,5,1;v1,5,1;p0>1,0,5,1;"};
       for (String text : wrong) {
         SiphonsBench x = new SiphonsBench();
-        due(Edge.tell(x, text) < -999 ? 1 : 0, 1);
+        due(tell(x, text) < -999 ? 1 : 0, 1);
         for (int what = 11; what <= 16; what++) {
           due(x.count(what), 0);
         }
@@ -165,7 +150,7 @@ public final class EdgeVesselTests {
   }
 
   private static void vessel() {
-    Edge.section("Promise 4");
+    section("Promise 4");
     says("A VESSEL more: its number", () -> {
       SiphonsBench x = new SiphonsBench();
       for (int v = 0; v < 5; v++) {
@@ -180,24 +165,24 @@ public final class EdgeVesselTests {
         due(x.of(v, 4), 0);
       }
     });
-    says("-4 (AREA, RIM below 1", () -> Edge.refused(-4,
+    says("-4 (AREA, RIM below 1", () -> refused(-4,
         x -> x.vessel(0, 0, 1), x -> x.vessel(LEAST, 0, 1),
         x -> x.vessel(1, 0, 0), x -> x.vessel(1, 0, LEAST)));
-    says("; BASE)", () -> Edge.refused(-4, x -> x.vessel(1, -1, 1), x -> x.vessel(1, LEAST, 1)));
-    says("-6 (9;", () -> Edge.refused(-6, x -> x.vessel(10, 0, 1), x -> x.vessel(MOST, 0, 1)));
-    says("20;", () -> Edge.refused(-6, x -> x.vessel(1, 21, 1), x -> x.vessel(1, MOST, 1)));
-    says("30;", () -> Edge.refused(-6, x -> x.vessel(1, 0, 31), x -> x.vessel(1, 0, MOST)));
-    says("5 are there, too)", () -> Edge.refused(Edge::full, -6,
+    says("; BASE)", () -> refused(-4, x -> x.vessel(1, -1, 1), x -> x.vessel(1, LEAST, 1)));
+    says("-6 (9;", () -> refused(-6, x -> x.vessel(10, 0, 1), x -> x.vessel(MOST, 0, 1)));
+    says("20;", () -> refused(-6, x -> x.vessel(1, 21, 1), x -> x.vessel(1, MOST, 1)));
+    says("30;", () -> refused(-6, x -> x.vessel(1, 0, 31), x -> x.vessel(1, 0, MOST)));
+    says("5 are there, too)", () -> refused(Edge::full, -6,
         x -> x.vessel(1, 0, 1), x -> x.vessel(10, 0, 1)));
     says("-4 (AREA, RIM below 1; BASE); -6 (9;", () -> {
-      Edge.refused(-4, x -> x.vessel(0, 21, 31), x -> x.vessel(10, -1, 31), x -> x.vessel(10, 21, 0));
-      Edge.refused(Edge::full, -4,
+      refused(-4, x -> x.vessel(0, 21, 31), x -> x.vessel(10, -1, 31), x -> x.vessel(10, 21, 0));
+      refused(Edge::full, -4,
           x -> x.vessel(0, 0, 1), x -> x.vessel(1, -1, 1), x -> x.vessel(1, 0, 0));
     });
   }
 
   private static SiphonsBench eightPipes() {
-    SiphonsBench x = told("v1,0,9;v1,5,4;");
+    SiphonsBench x = bench("v1,0,9;v1,5,4;");
     for (int p = 0; p < 8; p++) {
       x.pipe(0, 1, 0, 5, 1);
     }
@@ -205,9 +190,9 @@ public final class EdgeVesselTests {
   }
 
   private static void pipe() {
-    Edge.section("Promise 5");
+    section("Promise 5");
     says("A PIPE more (KIND 0, FIGURE 0): its number", () -> {
-      SiphonsBench x = told("v1,0,9;v1,5,4;");
+      SiphonsBench x = bench("v1,0,9;v1,5,4;");
       for (int p = 0; p < 8; p++) {
         due(x.pipe(1, 0, 5, p, 1 + p), p);
         due(x.count(1), p + 1);
@@ -219,45 +204,45 @@ public final class EdgeVesselTests {
         }
       }
     });
-    says("-1 either", () -> Edge.refused(-1, x -> x.pipe(3, 0, 5, 5, 1), x -> x.pipe(-1, 0, 5, 5, 1),
+    says("-1 either", () -> refused(-1, x -> x.pipe(3, 0, 5, 5, 1), x -> x.pipe(-1, 0, 5, 5, 1),
         x -> x.pipe(0, 3, 5, 5, 1), x -> x.pipe(0, -1, 5, 5, 1), x -> x.pipe(LEAST, 0, 5, 5, 1),
         x -> x.pipe(0, LEAST, 5, 5, 1), x -> x.pipe(MOST, 0, 5, 5, 1), x -> x.pipe(0, MOST, 5, 5, 1)));
-    says("(one twice, too)", () -> Edge.refused(-1,
+    says("(one twice, too)", () -> refused(-1,
         x -> x.pipe(0, 0, 5, 5, 1), x -> x.pipe(1, 1, 5, 5, 1), x -> x.pipe(2, 2, 5, 5, 1)));
-    says("-4 (RATE below 1)", () -> Edge.refused(-4,
+    says("-4 (RATE below 1)", () -> refused(-4,
         x -> x.pipe(0, 1, 5, 5, 0), x -> x.pipe(0, 1, 5, 5, LEAST)));
-    says("-6 (9;", () -> Edge.refused(-6,
+    says("-6 (9;", () -> refused(-6,
         x -> x.pipe(0, 1, 5, 5, 10), x -> x.pipe(0, 1, 5, 5, MOST)));
-    says("8 are there, too)", () -> Edge.refused(EdgeVesselTests::eightPipes, -6,
+    says("8 are there, too)", () -> refused(EdgeVesselTests::eightPipes, -6,
         x -> x.pipe(0, 1, 0, 5, 1), x -> x.pipe(1, 0, 5, 0, 9)));
-    says("-3 a MOUTH is below its BASE", () -> Edge.refused(-3, x -> x.pipe(0, 1, 4, 5, 1),
+    says("-3 a MOUTH is below its BASE", () -> refused(-3, x -> x.pipe(0, 1, 4, 5, 1),
         x -> x.pipe(0, 1, LEAST, 5, 1), x -> x.pipe(1, 0, 5, 4, 1), x -> x.pipe(0, 1, 5, -1, 1),
         x -> x.pipe(0, 1, 5, LEAST, 1)));
-    says("above BASE and RIM together", () -> Edge.refused(-3, x -> x.pipe(0, 1, 16, 5, 1),
+    says("above BASE and RIM together", () -> refused(-3, x -> x.pipe(0, 1, 16, 5, 1),
         x -> x.pipe(0, 1, MOST, 5, 1), x -> x.pipe(1, 0, 5, 16, 1), x -> x.pipe(0, 1, 5, 21, 1),
         x -> x.pipe(0, 1, 5, MOST, 1)));
     says("-3 a MOUTH is below its BASE, above BASE and RIM together", () -> {
-      SiphonsBench x = told("v2,5,10;v3,0,20;");
+      SiphonsBench x = bench("v2,5,10;v3,0,20;");
       due(x.pipe(0, 1, 5, 0, 1), 0);
       due(x.pipe(0, 1, 15, 20, 1), 1);
       due(x.pipe(1, 0, 0, 5, 1), 2);
       due(x.pipe(1, 0, 20, 15, 1), 3);
     });
     says("-1 either (one twice, too); -4 (RATE below 1); -6 (9; 8 are there, too); -3 a MOUTH", () -> {
-      Edge.refused(-1, x -> x.pipe(3, 0, 99, 99, 0), x -> x.pipe(0, 3, 99, 99, 10),
+      refused(-1, x -> x.pipe(3, 0, 99, 99, 0), x -> x.pipe(0, 3, 99, 99, 10),
           x -> x.pipe(0, 0, 99, 99, 0));
-      Edge.refused(-4, x -> x.pipe(0, 1, 4, 5, 0), x -> x.pipe(0, 1, 5, 99, 0));
-      Edge.refused(-6, x -> x.pipe(0, 1, 4, 5, 10), x -> x.pipe(0, 1, 5, 99, 10));
-      Edge.refused(EdgeVesselTests::eightPipes, -1, x -> x.pipe(0, 0, 0, 0, 1));
-      Edge.refused(EdgeVesselTests::eightPipes, -4, x -> x.pipe(0, 1, 0, 5, 0));
-      Edge.refused(EdgeVesselTests::eightPipes, -6, x -> x.pipe(0, 1, 0, 4, 1));
+      refused(-4, x -> x.pipe(0, 1, 4, 5, 0), x -> x.pipe(0, 1, 5, 99, 0));
+      refused(-6, x -> x.pipe(0, 1, 4, 5, 10), x -> x.pipe(0, 1, 5, 99, 10));
+      refused(EdgeVesselTests::eightPipes, -1, x -> x.pipe(0, 0, 0, 0, 1));
+      refused(EdgeVesselTests::eightPipes, -4, x -> x.pipe(0, 1, 0, 5, 0));
+      refused(EdgeVesselTests::eightPipes, -6, x -> x.pipe(0, 1, 0, 4, 1));
     });
   }
 
   private static void kind() {
-    Edge.section("Promise 6");
+    section("Promise 6");
     says("KIND, FIGURE become others", () -> {
-      SiphonsBench x = told("v1,0,9;v1,0,9;p0>1,0,0,4;");
+      SiphonsBench x = bench("v1,0,9;v1,0,9;p0>1,0,0,4;");
       for (int kind = 0; kind <= 5; kind++) {
         for (int figure = 0; figure <= 9; figure += 9) {
           x.kind(0, kind, figure);
@@ -267,101 +252,101 @@ public final class EdgeVesselTests {
       }
     });
     says("(it RUNS no more)", () -> {
-      SiphonsBench x = Edge.some();
+      SiphonsBench x = some();
       due(x.ofPipe(0, 7), 1);
       due(x.kind(0, 1, 2), 12);
       due(x.ofPipe(0, 7), 0);
-      SiphonsBench other = Edge.some();
+      SiphonsBench other = some();
       due(other.kind(0, 3, 9), 12);
       due(other.ofPipe(0, 7), 0);
       due(other.count(5), 0);
     });
     says("10 times the KIND and the FIGURE it had", () -> {
-      SiphonsBench x = told("v1,0,9;v1,0,9;p0>1,0,0,4;");
+      SiphonsBench x = bench("v1,0,9;v1,0,9;p0>1,0,0,4;");
       due(x.kind(0, 0, 9), 0);
       due(x.kind(0, 5, 9), 9);
       due(x.kind(0, 5, 0), 59);
       due(x.kind(0, 0, 0), 50);
     });
-    says("-1;", () -> Edge.refused(-1,
+    says("-1;", () -> refused(-1,
         x -> x.kind(2, 0, 0), x -> x.kind(-1, 0, 0), x -> x.kind(MOST, 0, 0), x -> x.kind(LEAST, 0, 0)));
-    says("-2;", () -> Edge.refused(-2,
+    says("-2;", () -> refused(-2,
         x -> x.kind(0, 6, 0), x -> x.kind(0, -1, 0), x -> x.kind(0, MOST, 0), x -> x.kind(0, LEAST, 0)));
-    says("-4;", () -> Edge.refused(-4, x -> x.kind(0, 1, -1), x -> x.kind(0, 1, LEAST)));
-    says("-6 9", () -> Edge.refused(-6, x -> x.kind(0, 1, 10), x -> x.kind(0, 1, MOST)));
+    says("-4;", () -> refused(-4, x -> x.kind(0, 1, -1), x -> x.kind(0, 1, LEAST)));
+    says("-6 9", () -> refused(-6, x -> x.kind(0, 1, 10), x -> x.kind(0, 1, MOST)));
     says("-1; -2; -4; -6 9", () -> {
-      Edge.refused(-1, x -> x.kind(2, 6, 0), x -> x.kind(2, 0, -1), x -> x.kind(2, 0, 10));
-      Edge.refused(-2, x -> x.kind(0, 6, -1), x -> x.kind(0, 6, 10));
+      refused(-1, x -> x.kind(2, 6, 0), x -> x.kind(2, 0, -1), x -> x.kind(2, 0, 10));
+      refused(-2, x -> x.kind(0, 6, -1), x -> x.kind(0, 6, 10));
     });
   }
 
   private static void rate() {
-    Edge.section("Promise 7");
+    section("Promise 7");
     says("RATE becomes v: what it was", () -> {
-      SiphonsBench x = told("v1,0,9;v1,0,9;p0>1,0,0,4;");
+      SiphonsBench x = bench("v1,0,9;v1,0,9;p0>1,0,0,4;");
       due(x.rate(0, 9), 4);
       due(x.rate(0, 1), 9);
       due(x.ofPipe(0, 6), 1);
     });
-    says("-1;", () -> Edge.refused(-1,
+    says("-1;", () -> refused(-1,
         x -> x.rate(2, 1), x -> x.rate(-1, 1), x -> x.rate(MOST, 1), x -> x.rate(LEAST, 1)));
-    says("-4 (below 1)", () -> Edge.refused(-4, x -> x.rate(0, 0), x -> x.rate(0, LEAST)));
-    says("-6 9", () -> Edge.refused(-6, x -> x.rate(0, 10), x -> x.rate(0, MOST)));
-    says("-1; -4 (below 1); -6 9", () -> Edge.refused(-1, x -> x.rate(2, 0), x -> x.rate(2, 10)));
+    says("-4 (below 1)", () -> refused(-4, x -> x.rate(0, 0), x -> x.rate(0, LEAST)));
+    says("-6 9", () -> refused(-6, x -> x.rate(0, 10), x -> x.rate(0, MOST)));
+    says("-1; -4 (below 1); -6 9", () -> refused(-1, x -> x.rate(2, 0), x -> x.rate(2, 10)));
   }
 
   private static void water() {
-    Edge.section("Promise 8");
+    section("Promise 8");
     says("WATER becomes v: what it was", () -> {
-      SiphonsBench x = told("v3,2,7;v9,20,30;");
+      SiphonsBench x = bench("v3,2,7;v9,20,30;");
       due(x.water(0, 21), 0);
       due(x.water(0, 0), 21);
       due(x.of(0, 3), 0);
       due(x.water(1, 270), 0);
       due(x.of(1, 3), 270);
     });
-    says("-1;", () -> Edge.refused(-1,
+    says("-1;", () -> refused(-1,
         x -> x.water(3, 0), x -> x.water(-1, 0), x -> x.water(MOST, 0), x -> x.water(LEAST, 0)));
-    says("-4;", () -> Edge.refused(-4, x -> x.water(0, -1), x -> x.water(0, LEAST)));
-    says("-6 (above AREA times RIM)", () -> Edge.refused(-6,
+    says("-4;", () -> refused(-4, x -> x.water(0, -1), x -> x.water(0, LEAST)));
+    says("-6 (above AREA times RIM)", () -> refused(-6,
         x -> x.water(0, 21), x -> x.water(0, MOST), x -> x.water(1, 61), x -> x.water(2, 82)));
-    says("-1; -4; -6 (above", () -> Edge.refused(-1, x -> x.water(3, -1), x -> x.water(3, MOST)));
+    says("-1; -4; -6 (above", () -> refused(-1, x -> x.water(3, -1), x -> x.water(3, MOST)));
   }
 
   private static void tap() {
-    Edge.section("Promise 9");
+    section("Promise 9");
     says("TAP becomes v: what it was", () -> {
-      SiphonsBench x = told("v3,2,7;");
+      SiphonsBench x = bench("v3,2,7;");
       due(x.tap(0, 9), 0);
       due(x.of(0, 4), 9);
       due(x.tap(0, 0), 9);
       due(x.of(0, 4), 0);
     });
-    says("-1;", () -> Edge.refused(-1,
+    says("-1;", () -> refused(-1,
         x -> x.tap(3, 0), x -> x.tap(-1, 0), x -> x.tap(MOST, 0), x -> x.tap(LEAST, 0)));
-    says("-4;", () -> Edge.refused(-4, x -> x.tap(0, -1), x -> x.tap(0, LEAST)));
-    says("-6 9", () -> Edge.refused(-6, x -> x.tap(0, 10), x -> x.tap(0, MOST)));
-    says("-1; -4; -6 9", () -> Edge.refused(-1, x -> x.tap(3, -1), x -> x.tap(3, 10)));
+    says("-4;", () -> refused(-4, x -> x.tap(0, -1), x -> x.tap(0, LEAST)));
+    says("-6 9", () -> refused(-6, x -> x.tap(0, 10), x -> x.tap(0, MOST)));
+    says("-1; -4; -6 9", () -> refused(-1, x -> x.tap(3, -1), x -> x.tap(3, 10)));
   }
 
   private static void passes() {
-    Edge.section("Promise 10");
+    section("Promise 10");
     says("n STEPS (1 .. 99): STEP", () -> {
-      SiphonsBench x = told("v9,0,30;t0=2;");
+      SiphonsBench x = bench("v9,0,30;t0=2;");
       due(x.passes(1), 1);
       due(x.of(0, 3), 2);
       due(x.passes(99), 100);
       due(x.of(0, 3), 200);
       due(x.count(2), 100);
     });
-    says("-4;", () -> Edge.refused(-4, x -> x.passes(0), x -> x.passes(-1), x -> x.passes(LEAST)));
-    says("-6", () -> Edge.refused(-6, x -> x.passes(100), x -> x.passes(MOST)));
+    says("-4;", () -> refused(-4, x -> x.passes(0), x -> x.passes(-1), x -> x.passes(LEAST)));
+    says("-6", () -> refused(-6, x -> x.passes(100), x -> x.passes(MOST)));
   }
 
   private static void of() {
-    Edge.section("Promise 11");
+    section("Promise 11");
     says("0 AREA, 1 BASE, 2 RIM, 3 WATER, 4 TAP", () -> {
-      SiphonsBench x = told("v3,4,5;v9,0,1;w0=14;t0=6;");
+      SiphonsBench x = bench("v3,4,5;v9,0,1;w0=14;t0=6;");
       int[] first = {3, 4, 5, 14, 6};
       int[] second = {9, 0, 1, 0, 0};
       for (int what = 0; what < 5; what++) {
@@ -369,42 +354,42 @@ public final class EdgeVesselTests {
         due(x.of(1, what), second[what]);
       }
     });
-    says("-1;", () -> Edge.refused(-1,
+    says("-1;", () -> refused(-1,
         x -> x.of(3, 0), x -> x.of(-1, 0), x -> x.of(MOST, 0), x -> x.of(LEAST, 0)));
-    says("-2", () -> Edge.refused(-2,
+    says("-2", () -> refused(-2,
         x -> x.of(0, 5), x -> x.of(0, -1), x -> x.of(0, MOST), x -> x.of(0, LEAST)));
-    says("-1; -2", () -> Edge.refused(-1, x -> x.of(3, 5), x -> x.of(-1, -1)));
+    says("-1; -2", () -> refused(-1, x -> x.of(3, 5), x -> x.of(-1, -1)));
   }
 
   private static void ofPipe() {
-    Edge.section("Promise 12");
+    section("Promise 12");
     says("0 KIND, 1 FIGURE, 2 FIRST, 3 SECOND, 4 its MOUTH in the first, 5 in the second, 6 RATE, "
         + "7 RUNS, 8 CREST", () -> {
       int[] was = {1, 2, 0, 1, 7, 0, 2, 1, 10};
-      SiphonsBench x = Edge.some();
+      SiphonsBench x = some();
       for (int what = 0; what < 9; what++) {
         due(x.ofPipe(0, what), was[what]);
       }
     });
     says("(of others than SIPHONS, CUPS -9)", () -> {
-      SiphonsBench x = told("v3,4,5;v9,0,9;p1>0,3,9,7;");
+      SiphonsBench x = bench("v3,4,5;v9,0,9;p1>0,3,9,7;");
       int[] crests = {-9, 10, -9, 3, -9, -9};
       for (int kind = 0; kind <= 5; kind++) {
         x.kind(0, kind, 6);
         due(x.ofPipe(0, 8), crests[kind]);
       }
     });
-    says("-1;", () -> Edge.refused(-1,
+    says("-1;", () -> refused(-1,
         x -> x.ofPipe(2, 0), x -> x.ofPipe(-1, 0), x -> x.ofPipe(MOST, 0), x -> x.ofPipe(LEAST, 0)));
-    says("-2", () -> Edge.refused(-2,
+    says("-2", () -> refused(-2,
         x -> x.ofPipe(0, 9), x -> x.ofPipe(0, -1), x -> x.ofPipe(0, MOST), x -> x.ofPipe(0, LEAST)));
-    says("-1; -2", () -> Edge.refused(-1, x -> x.ofPipe(2, 9), x -> x.ofPipe(-1, -1)));
+    says("-1; -2", () -> refused(-1, x -> x.ofPipe(2, 9), x -> x.ofPipe(-1, -1)));
   }
 
   private static void level() {
-    Edge.section("Promise 13");
+    section("Promise 13");
     says("LEVEL: part 0 above, 1 below the line", () -> {
-      SiphonsBench x = told("v6,3,5;v9,20,30;v6,0,5;w0=9;");
+      SiphonsBench x = bench("v6,3,5;v9,20,30;v6,0,5;w0=9;");
       due(x.level(0, 0), 9);
       due(x.level(0, 1), 2);
       x.water(1, 270);
@@ -413,17 +398,17 @@ public final class EdgeVesselTests {
       due(x.level(2, 0), 0);
       due(x.level(2, 1), 1);
     });
-    says("-1;", () -> Edge.refusedLong(-1,
+    says("-1;", () -> refusedLong(-1,
         x -> x.level(3, 0), x -> x.level(-1, 1), x -> x.level(MOST, 0), x -> x.level(LEAST, 0)));
-    says("-2", () -> Edge.refusedLong(-2,
+    says("-2", () -> refusedLong(-2,
         x -> x.level(0, 2), x -> x.level(0, -1), x -> x.level(0, MOST), x -> x.level(0, LEAST)));
-    says("Refused as told: -1; -2", () -> Edge.refusedLong(-1, x -> x.level(3, 2)));
+    says("Refused as told: -1; -2", () -> refusedLong(-1, x -> x.level(3, 2)));
   }
 
   private static void goes() {
-    Edge.section("Promise 14");
+    section("Promise 14");
     says("(below 0: from SECOND to FIRST; 0: not at all", () -> {
-      SiphonsBench x = told("v1,0,9;v1,0,9;p0>1,0,0,3;w0=9;");
+      SiphonsBench x = bench("v1,0,9;v1,0,9;p0>1,0,0,3;w0=9;");
       due(x.goes(0), 3);
       x.water(1, 9);
       due(x.goes(0), 0);
@@ -431,7 +416,7 @@ public final class EdgeVesselTests {
       due(x.goes(0), -3);
     });
     says("of a SIPHON, CUP as if it RAN, if it does or LEVEL of FIRST is CREST or more; else 0)", () -> {
-      SiphonsBench x = told("v1,0,9;v9,0,9;p0>1,2,0,3;k0=1,3;w0=5;");
+      SiphonsBench x = bench("v1,0,9;v9,0,9;p0>1,2,0,3;k0=1,3;w0=5;");
       due(x.goes(0), 0);
       x.water(0, 6);
       due(x.goes(0), 3);
@@ -439,7 +424,7 @@ public final class EdgeVesselTests {
       x.passes(1);
       due(x.of(0, 3), 3);
       due(x.goes(0), 1);
-      SiphonsBench cup = told("v1,10,9;v9,0,9;p0>1,10,0,2;k0=3,2;w0=6;");
+      SiphonsBench cup = bench("v1,10,9;v9,0,9;p0>1,10,0,2;k0=3,2;w0=6;");
       due(cup.goes(0), 0);
       cup.water(0, 7);
       due(cup.goes(0), 4);
@@ -448,20 +433,20 @@ public final class EdgeVesselTests {
     });
     says("How much a PIPE would GO now, were it the next to", () -> {
       // Neither a TAP nor the PIPE ahead of it has had its turn.
-      SiphonsBench x = told("v1,0,9;v1,0,9;p1>0,0,0,9;p0>1,0,0,9;t1=9;w0=8;");
+      SiphonsBench x = bench("v1,0,9;v1,0,9;p1>0,0,0,9;p0>1,0,0,9;t1=9;w0=8;");
       due(x.goes(0), -4);
       due(x.goes(1), 4);
     });
     says("Nothing changes", () -> {
-      SiphonsBench x = Edge.some();
+      SiphonsBench x = some();
       due(x.goes(0), 2);
       due(x.goes(1), 0);
-      Edge.alike(x, Edge.some());
-      SiphonsBench waits = told("v1,0,9;v9,0,9;p0>1,2,0,3;k0=1,3;w0=6;");
+      alike(x, some());
+      SiphonsBench waits = bench("v1,0,9;v9,0,9;p0>1,2,0,3;k0=1,3;w0=6;");
       due(waits.goes(0), 3);
       due(waits.count(5), 0);
     });
-    says("Refused as told: -1", () -> Edge.refusedLong(-1,
+    says("Refused as told: -1", () -> refusedLong(-1,
         x -> x.goes(2), x -> x.goes(-1), x -> x.goes(MOST), x -> x.goes(LEAST)));
   }
 
@@ -480,6 +465,6 @@ public final class EdgeVesselTests {
     ofPipe();
     level();
     goes();
-    Edge.finish("EdgeVesselTests");
+    finish("EdgeVesselTests");
   }
 }
