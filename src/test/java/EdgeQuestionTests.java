@@ -109,6 +109,25 @@ public final class EdgeQuestionTests extends Edge {
       most.water(0, 0);
       due(most.round(0), 136);
     });
+    says("and which PIPES RUN, and STEP modulo 3", () -> {
+      // The same SIPHON, as any of eight PIPES, the others idle, from any STEP on.
+      for (int siphon = 0; siphon < 8; siphon++) {
+        for (int step = 0; step < 3; step++) {
+          SiphonsBench x = bench("v1,10,9;v9,0,1;w1=9;");
+          for (int p = 0; p < 8; p++) {
+            x.pipe(p == siphon ? 0 : 1, p == siphon ? 1 : 0, p == siphon ? 10 : 1, p == siphon ? 0 : 10, 1);
+            x.kind(p, p == siphon ? 1 : 2, 4);
+          }
+          if (step > 0) {
+            x.passes(step);
+          }
+          x.water(0, 3);
+          x.tap(0, 1);
+          due(x.round(0), 5);
+          due(x.round(1), 2);
+        }
+      }
+    });
     says("In mind, from now on, n STEPS", EdgeQuestionTests::apart);
   }
 
