@@ -4,8 +4,9 @@ import java.util.List;
 import java.util.function.Supplier;
 
 /**
- * What the edge tests share: they extend it, so that its words are theirs. Each of them is one sentence of the document, told in the document's own
- * words, with a run of calls on objects of its own that goes otherwise if the sentence is broken.
+ * What the edge tests share: they extend it, so that its words are theirs. Each of their tests is one
+ * sentence of the document, told in the document's own words, with a run of calls on objects of its own
+ * that goes otherwise if the sentence is broken.
  */
 abstract class Edge {
   static final int LEAST = Integer.MIN_VALUE;
